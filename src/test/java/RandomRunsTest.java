@@ -4,7 +4,7 @@ import java.util.Random;
 
 /** Random runs of calls, the same ones each time, on GoalDesk and on PlainDesk: all that can be seen is compared. */
 public final class RandomRunsTest {
-    private static final int RUNS = 3000;
+    private static final int RUNS = 2000;
     private static final int CALLS = 60;
 
     private static final String[] PROGRAMS = {
@@ -148,13 +148,14 @@ public final class RandomRunsTest {
         }
         for (int variable = -1; variable <= 26; variable++) {
             int v = variable;
+            int far = answerOf(() -> plain.sleeping(v)).equals("-1") ? -1 : 81;
             boolean well = seenAlike("sleeping(" + v + ")", () -> desk.sleeping(v), () -> plain.sleeping(v));
-            for (int place = -2; place <= 81 && well; place++) {
+            for (int place = -1; place <= far && well; place++) {
                 int i = place;
-                well = seenAlike("letter(" + v + ", " + i + ")", () -> desk.letter(v, i), () -> plain.letter(v, i));
-                if (place >= 0 && answerOf(() -> desk.letter(v, i)).startsWith("throws")) {
-                    break;
-                }
+                String due = answerOf(() -> plain.letter(v, i));
+                well = due.equals(answerOf(() -> desk.letter(v, i)))
+                    || compared("letter(" + v + ", " + i + ")", () -> desk.letter(v, i), () -> plain.letter(v, i));
+                far = due.startsWith("throws") ? -1 : far;
             }
             if (!well) {
                 return false;
