@@ -189,7 +189,7 @@ public final class GoalDesk {
 
     /** What came of a piece of work; the search tells by it what is to be done next. */
     private enum Outcome {
-        DONE, FAILED, PAIRS, TESTS, WOKEN, SETTLED, WAITS,
+        DONE, FAILED, PAIRS, TESTS, WOKEN, NEW_APART,
         ANSWER, NO_ANSWER, TOO_MANY_STEPS, NO_DIGITS
     }
 
@@ -723,15 +723,12 @@ public final class GoalDesk {
             join(variable, sleeper, sleeper);
         }
 
-        void moveSleepers(int from, int to) {
-            if (firstSleeper(from) != NONE) {
-                join(to, firstSleeper(from), variables.at(from, LAST_SLEEPER));
+        /** Puts the sleepers from first to last, if there are any, behind those of the variable. */
+        void join(int variable, int first, int last) {
+            if (first == NONE) {
+                return;
             }
-        }
-
-        /** Puts the sleepers from first to last behind those of the variable. */
-        private void join(int variable, int first, int last) {
-            int before = variables.at(variable, LAST_SLEEPER);
+            int before = lastSleeper(variable);
             if (before == NONE) {
                 variables.put(variable, FIRST_SLEEPER, first);
             } else {
@@ -743,6 +740,10 @@ public final class GoalDesk {
 
         int firstSleeper(int variable) {
             return variables.at(variable, FIRST_SLEEPER);
+        }
+
+        int lastSleeper(int variable) {
+            return variables.at(variable, LAST_SLEEPER);
         }
 
         int sleeperBehind(int sleeper) {
@@ -899,32 +900,27 @@ public final class GoalDesk {
 
         Outcome testAparts() {
             for (int i = 0; i < store.aparts(); i++) {
-                if (!store.isWaiting(i)) {
-                    continue;
-                }
-                Outcome outcome = tryApart(store.apartGoal(i), store.apartEnv(i));
-                if (outcome == Outcome.SETTLED) {
-                    store.settle(i);
-                } else if (outcome != Outcome.WAITS) {
+                Outcome outcome = store.isWaiting(i) ? testApart(i) : Outcome.DONE;
+                if (outcome != Outcome.DONE) {
                     return outcome;
                 }
             }
             return Outcome.WOKEN;
         }
 
-        Outcome tryApart(int goal, int env) {
+        Outcome testApart(int apart) {
             int changes = store.changes();
+            int goal = store.apartGoal(apart);
+            int env = store.apartEnv(apart);
             pushPair(goal, env, book.right(goal), env);
             Outcome outcome = goThroughPairs(false);
             boolean bound = store.changes() > changes;
             store.goBack(changes);
             if (outcome == Outcome.FAILED) {
-                return Outcome.SETTLED;
+                store.settle(apart);
+                return Outcome.DONE;
             }
-            if (outcome == Outcome.DONE) {
-                return bound ? Outcome.WAITS : Outcome.FAILED;
-            }
-            return outcome;
+            return outcome == Outcome.DONE && !bound ? Outcome.FAILED : outcome;
         }
 
         private Outcome goThroughPairs(boolean stirring) {
@@ -944,7 +940,7 @@ public final class GoalDesk {
                     Value kept = greater ? second : first;
                     store.bind(bound.variable, kept);
                     if (stirring && kept.variable != NONE) {
-                        store.moveSleepers(bound.variable, kept.variable);
+                        store.join(kept.variable, store.firstSleeper(bound.variable), store.lastSleeper(bound.variable));
                     } else if (stirring) {
                         wake(bound.variable);
                     }
@@ -1033,6 +1029,8 @@ public final class GoalDesk {
                     outcome = matcher.makeSame();
                 } else if (outcome == Outcome.TESTS) {
                     outcome = matcher.testAparts();
+                } else if (outcome == Outcome.NEW_APART) {
+                    outcome = matcher.testApart(store.aparts() - 1);
                 } else if (outcome == Outcome.WOKEN) {
                     outcome = putWokenInFront();
                 } else if (outcome == Outcome.FAILED) {
@@ -1062,7 +1060,8 @@ public final class GoalDesk {
                     matcher.pushPair(goal, env, book.right(goal), env);
                     return Outcome.PAIRS;
                 case Book.APART:
-                    return doApart(goal, env);
+                    store.letWait(goal, env);
+                    return Outcome.NEW_APART;
                 case Book.LESS:
                     return doLess(goal, env);
                 case Book.SLEEP:
@@ -1070,15 +1069,6 @@ public final class GoalDesk {
                 default:
                     return doCall(goal, env);
             }
-        }
-
-        private Outcome doApart(int goal, int env) {
-            Outcome outcome = matcher.tryApart(goal, env);
-            if (outcome == Outcome.WAITS) {
-                store.letWait(goal, env);
-                return Outcome.DONE;
-            }
-            return outcome == Outcome.SETTLED ? Outcome.DONE : outcome;
         }
 
         private Outcome doLess(int goal, int env) {
@@ -1135,6 +1125,7 @@ public final class GoalDesk {
             cells.shrink(choices.at(choice, CELLS));
             toDo = choices.at(choice, TO_DO);
             int call = choices.at(choice, CALL);
+            int env = choices.at(choice, ENV);
             int clause = choices.at(choice, CLAUSE);
             int later = clauses.find(clause + 1, call);
             if (later == NONE) {
@@ -1142,7 +1133,7 @@ public final class GoalDesk {
             } else {
                 choices.put(choice, CLAUSE, later);
             }
-            take(clause, call, choices.at(choice, ENV), choice);
+            take(clause, call, env, choice);
             return Outcome.PAIRS;
         }
 

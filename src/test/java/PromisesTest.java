@@ -103,6 +103,8 @@ public final class PromisesTest {
             "say 9<0", "ask -> " + NO_SUCH, "say 5<5", "ask -> " + NO_SUCH);
         SCRIPT.run("5 in place of what is asked", "say X=1", "ask -> 2", "say Y=2", "ask -> 2", "letter X 0 -> " + NO_SUCH,
             "text Y -> 2", "count 3 -> 1", "count 6 -> 1");
+        SCRIPT.run("5 no choice stays from before", "say p", "add -> 1", "say p", "add -> 2", "say p,X~1", "ask -> 3", "count 4 -> 1",
+            "count 5 -> 1", "say X=1", "ask -> 2", "count 4 -> 0", "count 5 -> 0", "next -> " + NO_SUCH);
     }
 
     private static void next() {
@@ -139,7 +141,8 @@ public final class PromisesTest {
         SCRIPT.run("7 just 79", "say Z=f(1,1,1),Y=g(Z,Z,Z),X=h(Y,Y,f(f(Z,1)))", "ask -> 6", "letter X -1 -> 79", "letter X 78 -> 41",
             "letter X 79 -> " + NO_SUCH);
         SCRIPT.run("7 a name that was in the page before", "say A=B", "ask -> 2", "say X=1", "ask -> 2",
-            "letter B 0 -> " + NO_SUCH, "letter A 0 -> " + NO_SUCH, "text X -> 1");
+            "letter B 0 -> " + NO_SUCH, "letter A 0 -> " + NO_SUCH, "text X -> 1", "say a=a,B=1", "ask -> 4", "text B -> 1", "say X=1",
+            "ask -> 2", "letter B 0 -> " + NO_SUCH, "sleeping B -> -1");
     }
 
     private static void sleeping() {
@@ -266,6 +269,9 @@ public final class PromisesTest {
             "count 4 -> 1", "next -> 6", "text Y -> 2", "next -> " + NO_SUCH));
         SCRIPT.run("cut: in the last clause", joined(facts, "say p(Y),r(X)", "ask -> 6", "count 4 -> 3", "next -> 7", "count 4 -> 2",
             "next -> 9", "text X -> 8", "text Y -> 1", "count 4 -> 1", "next -> 14", "text Y -> 2"));
+        SCRIPT.run("cut: in a clause with more behind it", joined(facts, "say t(X):p(X)", "add -> 7", "say t(X):p(X),!", "add -> 8", "say t(5)",
+            "add -> 9", "say t(X)", "ask -> 4", "count 4 -> 2", "next -> 5", "count 4 -> 1", "next -> 9", "text X -> 1", "count 4 -> 0",
+            "next -> " + NO_SUCH));
         SCRIPT.run("cut: of what it woke", joined(facts, "say X?p(Z),q(X)", "ask -> 8", "count 4 -> 0", "text Z -> 1"));
         SCRIPT.run("cut: then fails", joined(facts, "say s:!,1=2", "add -> 7", "say s", "add -> 8", "say s", "ask -> " + NO_SUCH));
     }
@@ -284,7 +290,7 @@ public final class PromisesTest {
         SCRIPT.run("apart: before the woken", "say u:1<a", "add -> 1", "say X?u,X~1,X=1", "ask -> " + NO_SUCH, "say X?u,X~2,X=1",
             "ask -> " + UNSUPPORTED);
         SCRIPT.run("apart: a try wakes nothing", "say u:1<a", "add -> 1", "say X?u,X~1", "ask -> 3", "sleeping X -> 1",
-            "say X?u,Y?u,X~Y", "ask -> 4", "sleeping X -> 1", "sleeping Y -> 1");
+            "say X?u,X~1,Y=2", "ask -> 6", "sleeping X -> 1", "say X?u,Y?u,X~Y", "ask -> 4", "sleeping X -> 1", "sleeping Y -> 1");
         SCRIPT.run("apart: a try tests nothing", "say X~1,f(X,Y)~f(1,2)", "ask -> 6", "count 5 -> 2");
         SCRIPT.run("apart: endless", "say X=f(X),Y=f(Y),X~Y", "ask -> " + STATE);
     }
@@ -318,6 +324,8 @@ public final class PromisesTest {
             "count 5 -> 0"));
         SCRIPT.run("back: what sleeps", joined(facts, "say q(X):X?p(X),2<1", "add -> 4", "say q(X):X?p(X)", "add -> 5",
             "say q(X)", "ask -> 6", "sleeping X -> 1", "say Y?p(X),q(Y)", "ask -> 7", "sleeping Y -> 2"));
+        SCRIPT.run("back: nothing sleeps any more", joined(facts, "say q(X):X?z,2<1", "add -> 4", "say q(X)", "add -> 5", "say q(X)", "ask -> 5",
+            "sleeping X -> 0", "say q(X),X=7", "ask -> 7", "text X -> 7"));
         SCRIPT.run("back: what moved", joined(facts, "say q(X,X):2<1", "add -> 4", "say q(X,Y)", "add -> 5",
             "say A?p(A),B?p(B),B?p(1),q(A,B)", "ask -> 9", "sleeping A -> 1", "sleeping B -> 2"));
         SCRIPT.run("back: what woke sleeps again", joined(facts, "say Y?p(3),p(Y)", "ask -> 7", "text Y -> 1", "sleeping Y -> 0", "count 4 -> 1",
