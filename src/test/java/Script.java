@@ -4,7 +4,8 @@ import java.util.function.IntSupplier;
  * Runs a row of calls on a new desk. A row is a call, then " -> " and the answer that is due:
  * a number, "ok", or the name of an exception. Calls: say TEXT (typed in pieces of eight; answers what
  * the last type answered; without " -> " the length of that text is due), type NUMBER, add, drop I, ask, next, letter V I, text V (all characters
- * of it by letter), sleeping V, count WHAT. V is a capital or a number.
+ * of it by letter), sleeping V, count WHAT; and two at once: clause TEXT (say it, then add), question TEXT
+ * (say it, then ask). V is a capital or a number.
  */
 final class Script {
     private int wrong;
@@ -43,6 +44,10 @@ final class Script {
                 return caught(() -> desk.type(Long.decode(rest)));
             case "add":
                 return caught(desk::add);
+            case "clause":
+                return caught(() -> sayAndAdd(desk, rest));
+            case "question":
+                return caught(() -> sayAndAsk(desk, rest));
             case "drop":
                 String answer = caught(() -> drop(desk, Integer.parseInt(rest)));
                 return answer.equals("0") ? "ok" : answer;
@@ -84,6 +89,16 @@ final class Script {
         return answer;
     }
 
+    private static int sayAndAdd(GoalDesk desk, String text) {
+        say(desk, text);
+        return desk.add();
+    }
+
+    private static int sayAndAsk(GoalDesk desk, String text) {
+        say(desk, text);
+        return desk.ask();
+    }
+
     private static int drop(GoalDesk desk, int i) {
         desk.drop(i);
         return 0;
@@ -91,11 +106,15 @@ final class Script {
 
     private static String text(GoalDesk desk, int v) {
         StringBuilder text = new StringBuilder();
-        int length = desk.letter(v, -1);
-        for (int i = 0; i < length; i++) {
-            text.append((char) desk.letter(v, i));
+        try {
+            int length = desk.letter(v, -1);
+            for (int i = 0; i < length; i++) {
+                text.append((char) desk.letter(v, i));
+            }
+            return text.toString();
+        } catch (RuntimeException e) {
+            return e.getClass().getSimpleName();
         }
-        return text.toString();
     }
 
     private static int variable(String word) {
