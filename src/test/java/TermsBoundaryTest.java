@@ -162,7 +162,9 @@ public final class TermsBoundaryTest extends Sentences {
             marked("clause p:Z?u,A?v,Z=A,A=1 -> 3", "question p -> " + NO_SUCH),
             marked("clause p:A?u,Z?v,Z=A,A=1 -> 3", "question p -> " + UNSUPPORTED),
             marked("clause p(A):C?u,C=A,A=1 -> 3", "question Z?v,p(Z) -> " + NO_SUCH),
-            run("clause p(X,X) -> 1", "question p(A,1),p(B,2) -> 6", "text A -> 1", "text B -> 2", "count 6 -> 4"));
+            run("clause p(X,X) -> 1", "question p(A,1),p(B,2) -> 6", "text A -> 1", "text B -> 2", "count 6 -> 4"),
+            run("clause p(X,X) -> 1", "question p(A,1),p(B,2),p(C,3),p(D,4) -> 12", "text A -> 1", "text B -> 2", "text C -> 3",
+                "text D -> 4", "count 6 -> 8"));
         of("what is said of a TERM is said of what it stands for at last (the VALUE).",
             run("question Y=Z,X=Y,W=X,W=7 -> 8", "text W -> 7", "text Z -> 7"),
             run("question W=X,X=Y,Y?a,W?b -> 6", "sleeping W -> 2", "sleeping X -> 2", "sleeping Y -> 2"),
