@@ -1,11 +1,16 @@
+import java.io.IOException;
 import java.lang.reflect.Constructor;
 import java.lang.reflect.Field;
 import java.lang.reflect.Method;
 import java.lang.reflect.Modifier;
+import java.nio.file.Files;
+import java.nio.file.Path;
 import java.util.ArrayList;
 import java.util.Arrays;
 import java.util.List;
 import java.util.TreeSet;
+import java.util.regex.Matcher;
+import java.util.regex.Pattern;
 
 /** The class has the face of the document, and nothing else of it can be seen from outside. */
 public final class FaceTest {
@@ -20,7 +25,14 @@ public final class FaceTest {
         "int sleeping(int) IllegalArgumentException",
         "int count(int)");
 
-    public static void main(String[] args) {
+    private static final Path DOCUMENT = Path.of("..", "shared", "DOC.md");
+    private static final Pattern MEMBER = Pattern.compile("    public (.*?)\\((.*?)\\)(?: throws (.*))?;");
+
+    public static void main(String[] args) throws IOException {
+        if (Files.exists(DOCUMENT) && !told(Files.readString(DOCUMENT)).equals(FACE)) {
+            System.out.println("the document's face is " + told(Files.readString(DOCUMENT)));
+            System.exit(1);
+        }
         List<String> seen = new ArrayList<>();
         for (Constructor<?> one : GoalDesk.class.getDeclaredConstructors()) {
             if (isSeen(one.getModifiers())) {
@@ -45,6 +57,18 @@ public final class FaceTest {
             System.exit(1);
         }
         System.out.println("the face is as due");
+    }
+
+    /** The members as the document tells them, in the form of FACE. */
+    private static List<String> told(String document) {
+        List<String> members = new ArrayList<>();
+        Matcher member = MEMBER.matcher(document);
+        while (member.find()) {
+            String types = member.group(2).replaceAll(" \\w+(, )?", "$1").replace(", ", ",");
+            String thrown = member.group(3) == null ? "" : " " + member.group(3).replace("java.util.", "").replace(",", "");
+            members.add(member.group(1) + "(" + types + ")" + thrown);
+        }
+        return members;
     }
 
     private static boolean innerClassesAreHidden() {
